@@ -1,0 +1,157 @@
+import com.sun.source.tree.*;
+import com.sun.source.util.JavacTask;
+import com.sun.source.util.TreePath;
+import com.sun.source.util.TreePathScanner;
+import com.sun.source.util.Trees;
+import java.io.File;
+import java.util.HashMap;
+import java.util.HashSet;
+import java.util.List;
+import java.util.Map;
+import java.util.Set;
+import java.util.TreeSet;
+import javax.lang.model.element.Element;
+import javax.lang.model.element.ElementKind;
+import javax.lang.model.element.ExecutableElement;
+import javax.lang.model.element.Modifier;
+import javax.lang.model.element.TypeElement;
+import javax.tools.JavaCompiler;
+import javax.tools.StandardJavaFileManager;
+import javax.tools.ToolProvider;
+
+/** Holds the class against the rules of LANGUAGE.md that can be seen from the code. */
+public final class RulesTest {
+    private static final String FILE = "src/main/java/TideWords.java";
+    private static final Set<String> LIBRARY = Set.of("java.lang.Object.<init>", "java.lang.Math.abs", "java.lang.Math.min",
+        "java.lang.Math.max", "java.lang.System.arraycopy");
+    private static final Set<Tree.Kind> BANNED = Set.of(Tree.Kind.THROW, Tree.Kind.TRY, Tree.Kind.CATCH, Tree.Kind.SYNCHRONIZED,
+        Tree.Kind.ASSERT, Tree.Kind.LAMBDA_EXPRESSION, Tree.Kind.MEMBER_REFERENCE, Tree.Kind.IMPORT, Tree.Kind.PACKAGE,
+        Tree.Kind.STRING_LITERAL, Tree.Kind.INSTANCE_OF, Tree.Kind.ANNOTATION, Tree.Kind.DOUBLE_LITERAL, Tree.Kind.SWITCH_EXPRESSION);
+    private static final Set<String> FACE = Set.of("tide", "gauge", "gate", "shut", "put", "run", "store", "gateOf", "word", "at",
+        "count", "untilOpen", "openFor", "untilPassed", "ifRun", "leastSlack", "bestLie", "write", "wipe", "fault", "undo", "save", "restore");
+
+    private static int wrong = 0;
+    private static int classes = 0;
+    private static final Map<Element, Set<Element>> calls = new HashMap<>();
+
+    public static void main(String[] args) throws Exception {
+        JavaCompiler compiler = ToolProvider.getSystemJavaCompiler();
+        StandardJavaFileManager files = compiler.getStandardFileManager(null, null, null);
+        JavacTask task = (JavacTask) compiler.getTask(null, files, null, List.of("-proc:none"), null, files.getJavaFileObjects(new File(FILE)));
+        CompilationUnitTree unit = task.parse().iterator().next();
+        task.analyze();
+        new Rules(Trees.instance(task), unit).scan(unit, null);
+        check(classes <= 12, "classes in the file: " + classes);
+        Set<String> names = new TreeSet<>();
+        for (Element method : calls.keySet()) {
+            int depth = depthOf(method, new HashSet<>());
+            check(depth <= 8, method + " goes " + depth + " calls deep");
+            if (method.getModifiers().contains(Modifier.PUBLIC) && method.getKind() == ElementKind.METHOD) {
+                names.add(method.getSimpleName().toString());
+            }
+        }
+        check(names.equals(FACE), "the public methods are " + names);
+        System.out.println(wrong == 0 ? "the class keeps to the rules" : wrong + " rules are broken");
+        System.exit(wrong == 0 ? 0 : 1);
+    }
+
+    private static void check(boolean holds, String rule) {
+        if (!holds) {
+            wrong++;
+            System.out.println(rule);
+        }
+    }
+
+    private static int depthOf(Element method, Set<Element> open) {
+        if (!open.add(method)) {
+            return 1000;
+        }
+        int deepest = 0;
+        for (Element called : calls.getOrDefault(method, Set.of())) {
+            deepest = Math.max(deepest, depthOf(called, open));
+        }
+        open.remove(method);
+        return deepest + 1;
+    }
+
+    private static final class Rules extends TreePathScanner<Void, Void> {
+        private final Trees trees;
+        private final CompilationUnitTree unit;
+        private Element method;
+
+        Rules(Trees trees, CompilationUnitTree unit) {
+            this.trees = trees;
+            this.unit = unit;
+        }
+
+        private long line(Tree tree, boolean atEnd) {
+            long place = atEnd ? trees.getSourcePositions().getEndPosition(unit, tree) : trees.getSourcePositions().getStartPosition(unit, tree);
+            return place < 0 ? -1 : unit.getLineMap().getLineNumber(place);
+        }
+
+        @Override
+        public Void scan(Tree tree, Void none) {
+            if (tree != null) {
+                check(!BANNED.contains(tree.getKind()), "line " + line(tree, false) + ": " + tree.getKind());
+            }
+            return super.scan(tree, none);
+        }
+
+        @Override
+        public Void visitClass(ClassTree tree, Void none) {
+            classes++;
+            TypeElement type = (TypeElement) trees.getElement(getCurrentPath());
+            boolean isOutermost = type.getSimpleName().contentEquals("TideWords");
+            Set<Modifier> modifiers = type.getModifiers();
+            check(isOutermost || modifiers.contains(Modifier.STATIC) && !modifiers.contains(Modifier.PUBLIC), type + " is not static, or public");
+            int fields = 0;
+            for (Element member : type.getEnclosedElements()) {
+                boolean isConstant = member.getModifiers().contains(Modifier.STATIC);
+                if (member.getKind() == ElementKind.FIELD) {
+                    fields += isConstant ? 0 : 1;
+                    check(!isConstant || member.getModifiers().contains(Modifier.FINAL), member + " is static and not final");
+                }
+                check(!isOutermost || member instanceof TypeElement || member.getModifiers().contains(Modifier.PRIVATE)
+                    || member.getModifiers().contains(Modifier.PUBLIC), member + " is neither private nor public");
+            }
+            check(fields <= 20, type + " has " + fields + " fields");
+            return super.visitClass(tree, none);
+        }
+
+        @Override
+        public Void visitMethod(MethodTree tree, Void none) {
+            Element before = method;
+            method = trees.getElement(getCurrentPath());
+            calls.putIfAbsent(method, new HashSet<>());
+            String name = tree.getName().toString();
+            check(tree.getParameters().size() <= 7, name + " takes more than 7 parameters");
+            check(line(tree, true) - line(tree, false) < 60, name + " is longer than 60 lines");
+            check(method.getModifiers().contains(Modifier.PUBLIC) || !FACE.contains(name), name + " is the name of a public method");
+            super.visitMethod(tree, none);
+            method = before;
+            return null;
+        }
+
+        @Override
+        public Void visitMethodInvocation(MethodInvocationTree tree, Void none) {
+            called(trees.getElement(new TreePath(getCurrentPath(), tree.getMethodSelect())), tree);
+            return super.visitMethodInvocation(tree, none);
+        }
+
+        @Override
+        public Void visitNewClass(NewClassTree tree, Void none) {
+            check(tree.getClassBody() == null, "line " + line(tree, false) + ": an anonymous class");
+            called(trees.getElement(getCurrentPath()), tree);
+            return super.visitNewClass(tree, none);
+        }
+
+        private void called(Element target, Tree tree) {
+            ExecutableElement callee = (ExecutableElement) target;
+            String name = callee.getEnclosingElement() + "." + callee.getSimpleName();
+            check(name.startsWith("TideWords") || LIBRARY.contains(name), "line " + line(tree, false) + ": " + name);
+            if (method != null && name.startsWith("TideWords")) {
+                calls.get(method).add(callee);
+            }
+        }
+    }
+}
