@@ -170,6 +170,7 @@ public final class ChangesTest {
         Due.due("at(0, 0)", x.at(0, 0), 2);
         Due.due("not passed", x.word(3, 3), 0);
         Due.due("none has passed", x.count(2), 0);
+        Due.due("none has passed in both rows", x.count(3), 4);
         Due.due("history", x.count(10), 3);
     }
 

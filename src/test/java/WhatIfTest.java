@@ -156,6 +156,13 @@ public final class WhatIfTest {
         Due.due("leastSlack(-1, 0)", x.leastSlack(-1, 0), TideWords.NO_SUCH);
         Due.due("leastSlack(0, 2)", x.leastSlack(0, 2), TideWords.BAD_VALUE);
         Due.due("leastSlack(0, -1)", x.leastSlack(0, -1), TideWords.BAD_VALUE);
+        TideWords near = levels(101, 100);
+        Due.bring(near, 0, "ab");
+        near.shut(2, true);
+        Due.due("the gap 1", near.leastSlack(0, 0), 1);
+        near.gauge(1, 1);
+        Due.due("the gap 0", near.leastSlack(0, 0), 0);
+        Due.due("the gap 0", near.leastSlack(0, 1), 1);
         TideWords wide = levels(199, 100);
         Due.bring(wide, 0, "ab");
         Due.due("the gap 99", wide.leastSlack(0, 0), 99);
