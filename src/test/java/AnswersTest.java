@@ -1,7 +1,7 @@
 /** Promises 8 to 12: store, gateOf, word, at and count. */
 public final class AnswersTest {
     public static void main(String[] args) {
-        TideWords x = busy();
+        TideWords x = Given.busy();
         store(x);
         gateOf(x);
         word(x);
@@ -12,32 +12,9 @@ public final class AnswersTest {
         Due.finish();
     }
 
-    /** Two words have passed, one is in a gate, one is back in its row, and the pad has two characters. */
-    private static TideWords busy() {
-        TideWords x = new TideWords();
-        x.tide(0, 104, 0, 9);
-        x.tide(1, 100, 0, 7);
-        x.gauge(1, -1);
-        x.gate(2, 0, 30, 1);
-        Due.bring(x, 0, "abcd,efghij");
-        Due.bring(x, 1, "kl,m");
-        x.run(2);
-        x.gauge(0, 20);
-        x.run(3);
-        Due.type(x, "q,");
-        return x;
-    }
-
-    private static void each(TideWords x, String name, int which, int[] want) {
-        for (int what = 0; what < want.length; what++) {
-            long got = name.equals("store") ? x.store(which, what) : name.equals("gateOf") ? x.gateOf(which, what) : x.word(which, what);
-            Due.due(name + "(" + which + ", " + what + ")", got, want[what]);
-        }
-    }
-
     private static void store(TideWords x) {
-        each(x, "store", 0, new int[] {104, 0, 9, 20, 104, 124, 3, 7, 1});
-        each(x, "store", 1, new int[] {100, 0, 7, -1, 100, 99, 0, 0, 0});
+        Due.each("store(0, ..)", what -> x.store(0, what), 104, 0, 9, 20, 104, 124, 3, 7, 1);
+        Due.each("store(1, ..)", what -> x.store(1, what), 100, 0, 7, -1, 100, 99, 0, 0, 0);
         Due.due("store(0, 9)", x.store(0, 9), TideWords.BAD_VALUE);
         Due.due("store(0, -1)", x.store(0, -1), TideWords.BAD_VALUE);
         Due.due("store(2, 9)", x.store(2, 9), TideWords.NO_SUCH);
@@ -45,10 +22,10 @@ public final class AnswersTest {
     }
 
     private static void gateOf(TideWords x) {
-        each(x, "gateOf", 0, new int[] {0, 5, 0, 0, 0, TideWords.NONE, 0, 0, 2});
-        each(x, "gateOf", 1, new int[] {1, 5, 0, 0, 0, TideWords.NONE, 0, 1, 0});
-        each(x, "gateOf", 2, new int[] {0, 30, 1, 0, 1, 1, 5, 0, 0});
-        each(x, "gateOf", 3, new int[] {1, 5, 0, 0, 0, TideWords.NONE, 0, 1, 0});
+        Due.each("gateOf(0, ..)", what -> x.gateOf(0, what), 0, 5, 0, 0, 0, TideWords.NONE, 0, 0, 2);
+        Due.each("gateOf(1, ..)", what -> x.gateOf(1, what), 1, 5, 0, 0, 0, TideWords.NONE, 0, 1, 0);
+        Due.each("gateOf(2, ..)", what -> x.gateOf(2, what), 0, 30, 1, 0, 1, 1, 5, 0, 0);
+        Due.each("gateOf(3, ..)", what -> x.gateOf(3, what), 1, 5, 0, 0, 0, TideWords.NONE, 0, 1, 0);
         Due.due("gateOf(0, 9)", x.gateOf(0, 9), TideWords.BAD_VALUE);
         Due.due("gateOf(0, -1)", x.gateOf(0, -1), TideWords.BAD_VALUE);
         Due.due("gateOf(4, 9)", x.gateOf(4, 9), TideWords.NO_SUCH);
@@ -56,10 +33,10 @@ public final class AnswersTest {
     }
 
     private static void word(TideWords x) {
-        each(x, "word", 0, new int[] {0, 0, 4, 0, TideWords.NONE, TideWords.NONE, 1, 'a', 'b', 'c', 'd', TideWords.NONE});
-        each(x, "word", 1, new int[] {4, TideWords.NONE, 6, 0, TideWords.NONE, TideWords.NONE, 0, 'e', 'f', 'g', 'h', 'i', 'j', TideWords.NONE});
-        each(x, "word", 2, new int[] {0, 2, 2, 1, 1, 1, 0, 'k', 'l', TideWords.NONE});
-        each(x, "word", 3, new int[] {0, 1, 1, 1, 0, 3, 0, 'm', TideWords.NONE});
+        Due.each("word(0, ..)", what -> x.word(0, what), 0, 0, 4, 0, TideWords.NONE, TideWords.NONE, 1, 'a', 'b', 'c', 'd', TideWords.NONE);
+        Due.each("word(1, ..)", what -> x.word(1, what), 4, TideWords.NONE, 6, 0, TideWords.NONE, TideWords.NONE, 0, 'e', 'f', 'g', 'h', 'i', 'j', TideWords.NONE);
+        Due.each("word(2, ..)", what -> x.word(2, what), 0, 2, 2, 1, 1, 1, 0, 'k', 'l', TideWords.NONE);
+        Due.each("word(3, ..)", what -> x.word(3, what), 0, 1, 1, 1, 0, 3, 0, 'm', TideWords.NONE);
         Due.due("word(3, MAX)", x.word(3, Integer.MAX_VALUE), TideWords.NONE);
         Due.due("word(3, -1)", x.word(3, -1), TideWords.BAD_VALUE);
         Due.due("word(3, MIN)", x.word(3, Integer.MIN_VALUE), TideWords.BAD_VALUE);
@@ -69,10 +46,7 @@ public final class AnswersTest {
     }
 
     private static void at(TideWords x) {
-        int[] row = {0, 3, 2};
-        for (int place = 0; place < 3; place++) {
-            Due.due("at(0, " + place + ")", x.at(0, place), row[place]);
-        }
+        Due.each("at(0, ..)", place -> x.at(0, place), 0, 3, 2);
         Due.due("at(1, 0)", x.at(1, 0), TideWords.NO_SUCH);
         Due.due("at(0, 3)", x.at(0, 3), TideWords.NO_SUCH);
         Due.due("at(0, -1)", x.at(0, -1), TideWords.NO_SUCH);
@@ -83,10 +57,7 @@ public final class AnswersTest {
     }
 
     private static void count(TideWords x) {
-        int[] want = {5, 4, 2, 1, 1, 10, 2, 4, 0, 2, 6};
-        for (int what = 0; what < want.length; what++) {
-            Due.due("count(" + what + ")", x.count(what), want[what]);
-        }
+        Due.each("count", x::count, 5, 4, 2, 1, 1, 10, 2, 4, 0, 2, 6);
         Due.due("count(11)", x.count(11), TideWords.BAD_VALUE);
         Due.due("count(-1)", x.count(-1), TideWords.BAD_VALUE);
     }

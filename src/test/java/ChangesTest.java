@@ -19,14 +19,6 @@ public final class ChangesTest {
         Due.finish();
     }
 
-    /** Told levels that never differ: every gate is open unless it is shut. */
-    static TideWords steady() {
-        TideWords x = new TideWords();
-        x.tide(0, 100, 0, 2);
-        x.tide(1, 100, 0, 2);
-        return x;
-    }
-
     private static void newObject() {
         TideWords x = new TideWords();
         int[] counts = {0, 0, 0, 0, 0, 0, 0, 15, 0, 0, 0};
@@ -127,8 +119,8 @@ public final class ChangesTest {
     }
 
     private static void gateWithWord() {
-        TideWords x = steady();
-        Due.bring(x, 0, "abc");
+        TideWords x = Given.steady();
+        Given.bring(x, 0, "abc");
         x.run(1);
         Due.due("the word is in the gate 0", x.gateOf(0, 5), 0);
         Due.due("gate(0, 1, 5, 0)", x.gate(0, 1, 5, 0), TideWords.NOT_POSSIBLE);
@@ -157,11 +149,11 @@ public final class ChangesTest {
 
     private static void put() {
         TideWords x = new TideWords();
-        Due.due("put abcdef,g", Due.bring(x, 1, "abcdef,g"), 2);
+        Due.due("put abcdef,g", Given.bring(x, 1, "abcdef,g"), 2);
         Due.due("the pad is empty", x.count(9), 0);
         Due.due("put(1) of an empty pad", x.put(1), TideWords.BAD_TEXT);
-        Due.due("put z", Due.bring(x, 0, "z"), 3);
-        Due.due("put hi", Due.bring(x, 1, "hi"), 4);
+        Due.due("put z", Given.bring(x, 0, "z"), 3);
+        Due.due("put hi", Given.bring(x, 1, "hi"), 4);
         int[] row = {0, 1, 3};
         for (int place = 0; place < row.length; place++) {
             Due.due("at(1, " + place + ")", x.at(1, place), row[place]);
@@ -176,24 +168,24 @@ public final class ChangesTest {
 
     private static void putErrors() {
         TideWords x = new TideWords();
-        Due.bring(x, 0, "a,b,c,d,e,f,g,h,i,j");
-        Due.type(x, "k,l,m");
+        Given.bring(x, 0, "a,b,c,d,e,f,g,h,i,j");
+        Given.type(x, "k,l,m");
         Due.due("13 words", x.put(0), TideWords.TOO_MANY);
         Due.due("the pad is kept", x.count(9), 5);
         Due.due("no store, too many", x.put(2), TideWords.NO_SUCH);
         Due.due("no store, too many", x.put(-1), TideWords.NO_SUCH);
-        Due.type(x, ",");
+        Given.type(x, ",");
         Due.due("a fault, and too many", x.put(0), TideWords.BAD_TEXT);
         Due.due("words", x.count(1), 10);
         Due.due("history", x.count(10), 1);
-        Due.due("12 words", Due.bring(x, 1, "k,l"), 12);
-        Due.due("one more", Due.bring(x, 1, "m"), TideWords.TOO_MANY);
+        Due.due("12 words", Given.bring(x, 1, "k,l"), 12);
+        Due.due("one more", Given.bring(x, 1, "m"), TideWords.TOO_MANY);
         Due.due("at(1, 1)", x.at(1, 1), 11);
     }
 
     private static void run() {
-        TideWords x = steady();
-        Due.bring(x, 0, "a,b,cc");
+        TideWords x = Given.steady();
+        Given.bring(x, 0, "a,b,cc");
         Due.due("run(1)", x.run(1), 2);
         Due.due("run(1)", x.run(1), 0);
         Due.due("run(1)", x.run(1), 1);
@@ -221,9 +213,9 @@ public final class ChangesTest {
     }
 
     private static void steps() {
-        TideWords x = steady();
-        Due.bring(x, 0, "abc,de");
-        Due.bring(x, 1, "f");
+        TideWords x = Given.steady();
+        Given.bring(x, 0, "abc,de");
+        Given.bring(x, 1, "f");
         Due.due("step 0", x.run(1), 1);
         Due.due("gate 0 holds", x.gateOf(0, 5), 0);
         Due.due("gate 1 passed f", x.gateOf(1, 7), 1);
@@ -247,8 +239,8 @@ public final class ChangesTest {
     }
 
     private static void wordsGoBack() {
-        TideWords x = steady();
-        Due.bring(x, 0, "abc,def,g");
+        TideWords x = Given.steady();
+        Given.bring(x, 0, "abc,def,g");
         x.shut(2, true);
         x.run(2);
         x.shut(2, false);
@@ -276,10 +268,10 @@ public final class ChangesTest {
     }
 
     private static void goesBackAheadOfPassed() {
-        TideWords x = steady();
-        Due.bring(x, 1, "z");
+        TideWords x = Given.steady();
+        Given.bring(x, 1, "z");
         x.run(1);
-        Due.bring(x, 0, "abc,def,ghi");
+        Given.bring(x, 0, "abc,def,ghi");
         x.run(1);
         x.shut(0, true);
         x.shut(2, true);
@@ -294,9 +286,9 @@ public final class ChangesTest {
     }
 
     private static void wordsStay() {
-        TideWords x = steady();
+        TideWords x = Given.steady();
         x.gate(0, 0, 0, 1);
-        Due.bring(x, 0, "abc");
+        Given.bring(x, 0, "abc");
         x.run(2);
         x.gauge(1, 9);
         Due.due("closed, with the word", x.run(10), 0);

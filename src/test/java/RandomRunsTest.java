@@ -1,27 +1,34 @@
-/** Long runs of calls, each answer compared with the model's; the same runs every time. */
+/** Runs of 512 calls, as many as an object is used for, each answer compared with the model's; the same runs every time. */
 public final class RandomRunsTest {
-    private static final int RUNS = 400, CALLS = 512;
+    private static final int RUNS = 1000, CALLS = 512, MOST_IN_ONE = 5, MOST_IN_ALL = 290;
     private static final int[] EXTREMES = {Integer.MIN_VALUE, Integer.MIN_VALUE + 7, -1007, -51, -2, -1, 2, 4, 9, 12, 61, 101, 301, 501, 1001, 99999, Integer.MAX_VALUE - 6, Integer.MAX_VALUE};
     private static long seed;
     private static TideWords x;
     private static Model m;
-    private static String at;
+    private static int run;
+    private static int calls;
 
     public static void main(String[] args) {
-        for (int run = 0; run < RUNS; run++) {
+        all();
+        Due.finish();
+    }
+
+    static void all() {
+        for (run = 0; run < RUNS; run++) {
             seed = 7919L * run + 1;
             x = new TideWords();
             m = new Model();
+            calls = 0;
             int wild = run % 4 == 3 ? 20 : 3;
-            for (int call = 0; call < CALLS; call++) {
-                at = "run " + run + ", call " + call + ": ";
+            boolean isCompared = run % 5 < 2;
+            int most = CALLS - MOST_IN_ONE - (isCompared ? MOST_IN_ALL : 0);
+            while (calls <= most) {
                 oneCall(wild, run % 3);
-                if (call % 64 == 63) {
-                    compareAll();
-                }
+            }
+            if (isCompared) {
+                compareAll();
             }
         }
-        Due.finish();
     }
 
     private static int below(int bound) {
@@ -45,7 +52,8 @@ public final class RandomRunsTest {
     }
 
     private static void due(String call, long got, long want) {
-        Due.due(at + call, got, want);
+        calls++;
+        Due.due("run " + run + ", call " + calls + ": " + call, got, want);
     }
 
     private static void oneCall(int wild, int kind) {
@@ -114,13 +122,13 @@ public final class RandomRunsTest {
             due("write(" + any + ")", x.write(any), m.write(any));
         } else if (luck < 10) {
             String some = (below(3) == 0 ? "" : ",") + letters(1 + below(below(wild) == 0 ? 7 : 6));
-            long number = Due.packed(some);
+            long number = Given.packed(some);
             due("write(" + number + ")", x.write(number), m.write(number));
         } else {
             int store = below(2);
             due("put(" + store + ")", x.put(store), m.put(store));
             due("wipe()", x.wipe(), m.wipe());
-            long number = Due.packed(letters(1 + below(6)));
+            long number = Given.packed(letters(1 + below(6)));
             due("write(" + number + ")", x.write(number), m.write(number));
         }
         due("fault()", x.fault(), m.fault());
@@ -170,14 +178,23 @@ public final class RandomRunsTest {
     }
 
     private static void compareAll() {
-        for (int what = 0; what <= 14; what++) {
+        for (int what = 0; what <= 11; what++) {
             due("count(" + what + ")", x.count(what), m.count(what));
-            for (int i = 0; i < 12; i++) {
-                due("store(" + i + ", " + what + ")", x.store(i, what), m.store(i, what));
-                due("gateOf(" + i + ", " + what + ")", x.gateOf(i, what), m.gateOf(i, what));
-                due("word(" + i + ", " + what + ")", x.word(i, what), m.word(i, what));
-                due("at(" + what + ", " + i + ")", x.at(what, i), m.at(what, i));
-            }
         }
+        for (int what = 0; what <= 9; what++) {
+            for (int i = 0; i < 4; i++) {
+                due("gateOf(" + i + ", " + what + ")", x.gateOf(i, what), m.gateOf(i, what));
+            }
+            due("store(0, " + what + ")", x.store(0, what), m.store(0, what));
+            due("store(1, " + what + ")", x.store(1, what), m.store(1, what));
+        }
+        for (int word = 0; word <= m.count(1); word++) {
+            for (int what = 0; what <= 13; what++) {
+                due("word(" + word + ", " + what + ")", x.word(word, what), m.word(word, what));
+            }
+            due("at(0, " + word + ")", x.at(0, word), m.at(0, word));
+            due("at(1, " + word + ")", x.at(1, word), m.at(1, word));
+        }
+        Due.isTrue(calls <= CALLS, "run " + run + " has " + calls + " calls");
     }
 }

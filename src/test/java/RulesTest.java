@@ -22,11 +22,24 @@ import javax.tools.ToolProvider;
 /** Holds the class against the rules of LANGUAGE.md that can be seen from the code. */
 public final class RulesTest {
     private static final String FILE = "src/main/java/TideWords.java";
-    private static final Set<String> LIBRARY = Set.of("java.lang.Object.<init>", "java.lang.Math.abs", "java.lang.Math.min",
-        "java.lang.Math.max", "java.lang.System.arraycopy");
+    /** Rule 4: the classes of the library, and what may be called of them; a class's own name makes a new object. */
+    private static final Map<String, Set<String>> LIBRARY = Map.ofEntries(
+        Map.entry("java.lang.Object", Set.of("<init>", "clone")),
+        Map.entry("java.lang.Record", Set.of("<init>")),
+        Map.entry("java.lang.Enum", Set.of("<init>", "ordinal", "compareTo")),
+        Map.entry("java.lang.String", Set.of("<init>", "length", "charAt", "isEmpty", "equals", "indexOf", "substring", "toCharArray")),
+        Map.entry("java.lang.StringBuilder", Set.of("<init>", "append", "charAt", "setCharAt", "setLength", "deleteCharAt", "reverse", "length", "toString")),
+        Map.entry("java.util.ArrayList", Set.of("<init>", "add", "get", "set", "remove", "size", "isEmpty", "clear")),
+        Map.entry("java.util.List", Set.of("of", "add", "get", "set", "remove", "size", "isEmpty", "clear")),
+        Map.entry("java.util.Iterator", Set.of("hasNext", "next")),
+        Map.entry("java.lang.Iterable", Set.of("iterator")),
+        Map.entry("java.lang.Comparable", Set.of("compareTo")),
+        Map.entry("java.lang.System", Set.of("arraycopy")),
+        Map.entry("java.util.Arrays", Set.of("copyOf", "copyOfRange", "fill")));
+    private static final Set<String> WITH_STATIC_FUNCTIONS = Set.of("java.lang.Integer", "java.lang.Long", "java.lang.Math");
+    /** Rules 2 and 6; and a switch expression, which no rule names. */
     private static final Set<Tree.Kind> BANNED = Set.of(Tree.Kind.THROW, Tree.Kind.TRY, Tree.Kind.CATCH, Tree.Kind.SYNCHRONIZED,
-        Tree.Kind.ASSERT, Tree.Kind.LAMBDA_EXPRESSION, Tree.Kind.MEMBER_REFERENCE, Tree.Kind.IMPORT, Tree.Kind.PACKAGE,
-        Tree.Kind.STRING_LITERAL, Tree.Kind.INSTANCE_OF, Tree.Kind.ANNOTATION, Tree.Kind.DOUBLE_LITERAL, Tree.Kind.SWITCH_EXPRESSION);
+        Tree.Kind.ASSERT, Tree.Kind.LAMBDA_EXPRESSION, Tree.Kind.MEMBER_REFERENCE, Tree.Kind.PACKAGE, Tree.Kind.SWITCH_EXPRESSION);
     private static final Set<String> FACE = Set.of("tide", "gauge", "gate", "shut", "put", "run", "store", "gateOf", "word", "at",
         "count", "untilOpen", "openFor", "untilPassed", "ifRun", "leastSlack", "bestLie", "write", "wipe", "fault", "undo", "save", "restore");
 
@@ -145,13 +158,30 @@ public final class RulesTest {
             return super.visitNewClass(tree, none);
         }
 
+        @Override
+        public Void visitBinary(BinaryTree tree, Void none) {
+            String type = String.valueOf(trees.getTypeMirror(getCurrentPath()));
+            check(!type.equals("java.lang.String"), "line " + line(tree, false) + ": texts are joined by +");
+            return super.visitBinary(tree, none);
+        }
+
         private void called(Element target, Tree tree) {
             ExecutableElement callee = (ExecutableElement) target;
-            String name = callee.getEnclosingElement() + "." + callee.getSimpleName();
-            check(name.startsWith("TideWords") || LIBRARY.contains(name), "line " + line(tree, false) + ": " + name);
-            if (method != null && name.startsWith("TideWords")) {
+            TypeElement owner = (TypeElement) callee.getEnclosingElement();
+            String type = owner.getQualifiedName().toString();
+            boolean isOwn = type.startsWith("TideWords");
+            check(isOwn || isInLibrary(type, callee), "line " + line(tree, false) + ": " + type + "." + callee.getSimpleName());
+            if (method != null && isOwn) {
                 calls.get(method).add(callee);
             }
+        }
+
+        private static boolean isInLibrary(String type, ExecutableElement callee) {
+            String name = callee.getSimpleName().toString();
+            if (WITH_STATIC_FUNCTIONS.contains(type)) {
+                return callee.getModifiers().contains(Modifier.STATIC) && !name.endsWith("Exact");
+            }
+            return LIBRARY.getOrDefault(type, Set.of()).contains(name);
         }
     }
 }

@@ -15,7 +15,7 @@ public final class TextsTest {
         TideWords x = new TideWords();
         Due.due("write(b)", x.write('b'), 1);
         Due.due("write(ac): the lowest bits are the last one", x.write('a' << 8 | 'c'), 3);
-        Due.due("write of 8 characters", x.write(Due.packed("g,hijkl,")), 11);
+        Due.due("write of 8 characters", x.write(Given.packed("g,hijkl,")), 11);
         Due.due("write(m)", x.write('m'), 12);
         Due.due("put", x.put(0), 3);
         String[] words = {"bacg", "hijkl", "m"};
@@ -41,35 +41,35 @@ public final class TextsTest {
         Due.due("something above, but no last character", x.write('a' << 8), TideWords.BAD_VALUE);
         Due.due("write(-1)", x.write(-1), TideWords.BAD_VALUE);
         Due.due("write(MIN)", x.write(Long.MIN_VALUE), TideWords.BAD_VALUE);
-        Due.due("the code 225 ahead of seven", x.write(Due.packed("abcdefg") | 225L << 56), TideWords.BAD_VALUE);
+        Due.due("the code 225 ahead of seven", x.write(Given.packed("abcdefg") | 225L << 56), TideWords.BAD_VALUE);
         Due.due("the length is the same", x.count(9), 2);
     }
 
     private static void tooLong() {
         TideWords x = new TideWords();
         for (int i = 1; i <= 7; i++) {
-            Due.due("write of 8, " + i, x.write(Due.packed("abcdefgh")), 8 * i);
+            Due.due("write of 8, " + i, x.write(Given.packed("abcdefgh")), 8 * i);
         }
-        Due.due("61 characters", x.write(Due.packed("abcde")), TideWords.TOO_MANY);
-        Due.due("61 characters, a bad one", x.write(Due.packed("abc e")), TideWords.BAD_VALUE);
-        Due.due("60 characters", x.write(Due.packed("abcd")), 60);
+        Due.due("61 characters", x.write(Given.packed("abcde")), TideWords.TOO_MANY);
+        Due.due("61 characters, a bad one", x.write(Given.packed("abc e")), TideWords.BAD_VALUE);
+        Due.due("60 characters", x.write(Given.packed("abcd")), 60);
         Due.due("one more", x.write('a'), TideWords.TOO_MANY);
         Due.due("one more, a bad one", x.write(1), TideWords.BAD_VALUE);
         Due.due("length", x.count(9), 60);
         Due.due("fault", x.fault(), 6);
         x.wipe();
-        Due.type(x, "abcdef,abcdef,abcdef,abcdef,abcdef,abcdef,abcdef,abcdef,abc,");
+        Given.type(x, "abcdef,abcdef,abcdef,abcdef,abcdef,abcdef,abcdef,abcdef,abc,");
         Due.due("60 characters, ended too early", x.fault(), 60);
     }
 
     private static void wipe() {
         TideWords x = new TideWords();
         Due.due("wipe()", x.wipe(), 0);
-        Due.type(x, "hello,world");
+        Given.type(x, "hello,world");
         Due.due("wipe()", x.wipe(), 11);
         Due.due("wipe()", x.wipe(), 0);
         Due.due("length", x.count(9), 0);
-        Due.type(x, "ab");
+        Given.type(x, "ab");
         Due.due("the new text alone", x.put(0), 1);
         Due.due("its length", x.word(0, 2), 2);
     }
@@ -80,7 +80,7 @@ public final class TextsTest {
         int[] faults = {0, -1, -1, 6, 7, -1, 0, 2, 4, 1, 0, 10, 3, -1, 1, 0, -1, 1, 9};
         for (int i = 0; i < texts.length; i++) {
             TideWords x = new TideWords();
-            Due.type(x, texts[i]);
+            Given.type(x, texts[i]);
             Due.due("fault of '" + texts[i] + "'", x.fault(), faults[i] < 0 ? TideWords.NONE : faults[i]);
             Due.due("length of '" + texts[i] + "'", x.count(9), texts[i].length());
         }
@@ -100,7 +100,7 @@ public final class TextsTest {
 
     private static void noChanges() {
         TideWords x = new TideWords();
-        Due.type(x, "ab");
+        Given.type(x, "ab");
         x.fault();
         x.wipe();
         Due.due("texts are no changes", x.count(10), 0);

@@ -18,7 +18,7 @@ public final class UndoTest {
         x.gauge(1, 9);
         x.gate(2, 1, 44, 1);
         x.shut(3, true);
-        Due.bring(x, 0, "abc,de");
+        Given.bring(x, 0, "abc,de");
         x.run(3);
         Due.due("history", x.count(10), 6);
         Due.due("undo of run", x.undo(), 5);
@@ -76,8 +76,8 @@ public final class UndoTest {
 
     private static void thePadIsLeft() {
         TideWords x = new TideWords();
-        Due.bring(x, 0, "ab");
-        Due.type(x, "cde");
+        Given.bring(x, 0, "ab");
+        Given.type(x, "cde");
         Due.due("undo()", x.undo(), 0);
         Due.due("pad", x.count(9), 3);
         Due.due("words", x.count(1), 0);
@@ -85,15 +85,15 @@ public final class UndoTest {
         x.wipe();
         x.restore(0);
         Due.due("pad", x.count(9), 0);
-        Due.bring(x, 0, "ab");
+        Given.bring(x, 0, "ab");
         x.undo();
         Due.due("put's text does not come back", x.count(9), 0);
         Due.due("put of the empty pad", x.put(0), TideWords.BAD_TEXT);
     }
 
     private static void saveAndRestore() {
-        TideWords x = ChangesTest.steady();
-        Due.bring(x, 0, "abc,def");
+        TideWords x = Given.steady();
+        Given.bring(x, 0, "abc,def");
         x.run(2);
         Due.due("save(1)", x.save(1), 2);
         int history = x.count(10);
@@ -149,8 +149,8 @@ public final class UndoTest {
     }
 
     private static void undoOfWords() {
-        TideWords x = ChangesTest.steady();
-        Due.bring(x, 0, "abcdef,ghi");
+        TideWords x = Given.steady();
+        Given.bring(x, 0, "abcdef,ghi");
         x.run(2);
         x.shut(0, true);
         x.run(1);
@@ -167,7 +167,7 @@ public final class UndoTest {
         x.undo();
         x.undo();
         Due.due("no words", x.count(1), 0);
-        Due.bring(x, 1, "xy");
+        Given.bring(x, 1, "xy");
         Due.due("a new word 0", x.word(0, 0), 1);
         Due.due("its length", x.word(0, 2), 2);
         Due.due("its letter", x.word(0, 7), 'x');

@@ -14,13 +14,6 @@ public final class WhatIfTest {
         Due.finish();
     }
 
-    private static TideWords levels(int first, int second) {
-        TideWords x = new TideWords();
-        x.tide(0, first, 0, 2);
-        x.tide(1, second, 0, 2);
-        return x;
-    }
-
     /** The levels 70 + 5 * p of 24 and 70 + 6 * p of 20: at 6 they differ by 6, at 11 by 1, at 12 by 12. */
     private static void untilOpen() {
         TideWords x = new TideWords();
@@ -59,13 +52,13 @@ public final class WhatIfTest {
         Due.due("openFor(0), shut by hand", x.openFor(0), TideWords.NONE);
         Due.due("openFor(4)", x.openFor(4), TideWords.NO_SUCH);
         Due.due("openFor(-1)", x.openFor(-1), TideWords.NO_SUCH);
-        Due.due("open for ever", levels(100, 105).openFor(2), 4000);
-        Due.due("never open", levels(100, 106).openFor(2), TideWords.NONE);
+        Due.due("open for ever", Given.levels(100, 105).openFor(2), 4000);
+        Due.due("never open", Given.levels(100, 106).openFor(2), TideWords.NONE);
     }
 
     private static void untilPassed() {
-        TideWords x = levels(100, 100);
-        Due.bring(x, 0, "abcdef,gh,i");
+        TideWords x = Given.levels(100, 100);
+        Given.bring(x, 0, "abcdef,gh,i");
         Due.due("untilPassed(0)", x.untilPassed(0), 6);
         Due.due("untilPassed(1)", x.untilPassed(1), 2);
         Due.due("untilPassed(2) waits for the gate 2", x.untilPassed(2), 3);
@@ -86,7 +79,7 @@ public final class WhatIfTest {
         x.tide(0, 100, 100, 60);
         x.tide(1, 299, 100, 58);
         x.gate(0, 0, 1, 1);
-        Due.bring(x, 0, "ab");
+        Given.bring(x, 0, "ab");
         Due.due("too far", x.untilPassed(0), TideWords.NONE);
         x.run(500);
         x.run(500);
@@ -103,8 +96,8 @@ public final class WhatIfTest {
     }
 
     private static void ifRun() {
-        TideWords x = levels(100, 100);
-        Due.bring(x, 0, "abc,de,fghi");
+        TideWords x = Given.levels(100, 100);
+        Given.bring(x, 0, "abc,de,fghi");
         Due.due("ifRun(1, 0)", x.ifRun(1, 0), 0);
         Due.due("ifRun(2, 0)", x.ifRun(2, 0), 1);
         Due.due("ifRun(3, 0)", x.ifRun(3, 0), 2);
@@ -131,15 +124,15 @@ public final class WhatIfTest {
         again.tide(0, 110, 10, 3);
         again.tide(1, 100, 0, 2);
         again.shut(2, true);
-        Due.bring(again, 0, "ab");
+        Given.bring(again, 0, "ab");
         Due.due("open in every third step, and back in the next: each time counted", again.ifRun(9, 2), 3);
         Due.due("and each time a letter in vain", again.ifRun(9, 1), 3);
         Due.due("steps in which none is open", again.ifRun(9, 3), 6);
     }
 
     private static void leastSlack() {
-        TideWords x = levels(107, 100);
-        Due.bring(x, 0, "ab");
+        TideWords x = Given.levels(107, 100);
+        Given.bring(x, 0, "ab");
         Due.due("leastSlack(0, 0)", x.leastSlack(0, 0), 7);
         Due.due("leastSlack(0, 1)", x.leastSlack(0, 1), 1);
         Due.due("leastSlack(2, 0)", x.leastSlack(2, 0), 7);
@@ -156,15 +149,15 @@ public final class WhatIfTest {
         Due.due("leastSlack(-1, 0)", x.leastSlack(-1, 0), TideWords.NO_SUCH);
         Due.due("leastSlack(0, 2)", x.leastSlack(0, 2), TideWords.BAD_VALUE);
         Due.due("leastSlack(0, -1)", x.leastSlack(0, -1), TideWords.BAD_VALUE);
-        TideWords near = levels(101, 100);
-        Due.bring(near, 0, "ab");
+        TideWords near = Given.levels(101, 100);
+        Given.bring(near, 0, "ab");
         near.shut(2, true);
         Due.due("the gap 1", near.leastSlack(0, 0), 1);
         near.gauge(1, 1);
         Due.due("the gap 0", near.leastSlack(0, 0), 0);
         Due.due("the gap 0", near.leastSlack(0, 1), 1);
-        TideWords wide = levels(199, 100);
-        Due.bring(wide, 0, "ab");
+        TideWords wide = Given.levels(199, 100);
+        Given.bring(wide, 0, "ab");
         Due.due("the gap 99", wide.leastSlack(0, 0), 99);
         wide.gauge(0, 1);
         Due.due("the gap 100", wide.leastSlack(0, 0), 0);
@@ -190,14 +183,14 @@ public final class WhatIfTest {
         int[] least = {4, 0, 0, 0, 4, 4, 4, 0};
         for (int i = 0; i < steps.length; i++) {
             TideWords x = seldom(steps[i]);
-            Due.bring(x, 0, "abcd");
+            Given.bring(x, 0, "abcd");
             Due.due("leastSlack(0, 0) at " + steps[i], x.leastSlack(0, 0), least[i]);
             Due.due("leastSlack(0, 1) at " + steps[i], x.leastSlack(0, 1), 1);
         }
     }
 
     private static void bestLie() {
-        TideWords x = levels(120, 100);
+        TideWords x = Given.levels(120, 100);
         Due.due("bestLie(0, 0): down to 105", x.bestLie(0, 0), -15);
         Due.due("bestLie(1, 0): up to 115", x.bestLie(1, 0), 15);
         x.gauge(0, -18);
@@ -216,13 +209,13 @@ public final class WhatIfTest {
         Due.due("bestLie(-1, 0)", x.bestLie(-1, 0), TideWords.NO_SUCH);
         Due.due("bestLie(0, 4)", x.bestLie(0, 4), TideWords.NO_SUCH);
         Due.due("bestLie(0, -1)", x.bestLie(0, -1), TideWords.NO_SUCH);
-        TideWords lowest = levels(150, 100);
+        TideWords lowest = Given.levels(150, 100);
         lowest.gate(1, 1, 0, 0);
         Due.due("bestLie(0, 1): the first one", lowest.bestLie(0, 1), -50);
     }
 
     private static void bestLieOfMany() {
-        TideWords x = levels(100, 100);
+        TideWords x = Given.levels(100, 100);
         x.tide(0, 100, 10, 2);
         Due.due("90 and 110 by turns, with the slack 5: both as near", x.bestLie(0, 0), -5);
         Due.due("for the other store", x.bestLie(1, 0), -5);
@@ -244,7 +237,7 @@ public final class WhatIfTest {
 
     private static void nothingChanges() {
         TideWords x = new TideWords();
-        Due.bring(x, 0, "abc,de");
+        Given.bring(x, 0, "abc,de");
         x.run(4);
         x.untilOpen(0);
         x.openFor(1);
