@@ -33,11 +33,11 @@ final class Document {
         return true;
     }
 
-    /** What stands in the terms and the promises, and no test has quoted. */
+    /** What stands in the first section, the terms and the promises, and no test has quoted. */
     static List<String> unquoted() {
         List<String> left = new ArrayList<>();
         for (String section : sections.keySet()) {
-            if (section.startsWith("Promise") || List.of("Terms", "Stores", "Gates", "Words", "A step", "Texts").contains(section)) {
+            if (section.startsWith("Promise") || List.of("What it is", "Terms", "Stores", "Gates", "Words", "A step", "Texts").contains(section)) {
                 String text = sections.get(section);
                 boolean[] marks = quoted.getOrDefault(section, new boolean[text.length()]);
                 StringBuilder rest = new StringBuilder();

@@ -1,4 +1,4 @@
-/** Each sentence of the terms and the promises, at the edges that it names. */
+/** Each sentence of the document, at the edges that it names. */
 public final class EdgesTest {
     public static void main(String[] args) {
         all();
@@ -6,6 +6,7 @@ public final class EdgesTest {
     }
 
     static void all() {
+        WholeEdges.all();
         TermsEdges.all();
         StepEdges.all();
         ChangeEdges.all();

@@ -4,6 +4,9 @@ import com.sun.source.util.TreePath;
 import com.sun.source.util.TreePathScanner;
 import com.sun.source.util.Trees;
 import java.io.File;
+import java.io.IOException;
+import java.nio.file.Files;
+import java.nio.file.Path;
 import java.util.HashMap;
 import java.util.HashSet;
 import java.util.List;
@@ -40,14 +43,17 @@ public final class RulesTest {
     /** Rules 2 and 6; and a switch expression, which no rule names. */
     private static final Set<Tree.Kind> BANNED = Set.of(Tree.Kind.THROW, Tree.Kind.TRY, Tree.Kind.CATCH, Tree.Kind.SYNCHRONIZED,
         Tree.Kind.ASSERT, Tree.Kind.LAMBDA_EXPRESSION, Tree.Kind.MEMBER_REFERENCE, Tree.Kind.PACKAGE, Tree.Kind.SWITCH_EXPRESSION);
-    private static final Set<String> FACE = Set.of("tide", "gauge", "gate", "shut", "put", "run", "store", "gateOf", "word", "at",
-        "count", "untilOpen", "openFor", "untilPassed", "ifRun", "leastSlack", "bestLie", "write", "wipe", "fault", "undo", "save", "restore");
+    private static final String CONSTANT = "public static final int ";
+    /** The public members as the document declares them, and as the class does. */
+    private static final Set<String> face = new TreeSet<>();
+    private static final Set<String> members = new TreeSet<>();
 
     private static int wrong = 0;
     private static int classes = 0;
     private static final Map<Element, Set<Element>> calls = new HashMap<>();
 
     public static void main(String[] args) throws Exception {
+        readFace();
         JavaCompiler compiler = ToolProvider.getSystemJavaCompiler();
         StandardJavaFileManager files = compiler.getStandardFileManager(null, null, null);
         JavacTask task = (JavacTask) compiler.getTask(null, files, null, List.of("-proc:none"), null, files.getJavaFileObjects(new File(FILE)));
@@ -55,17 +61,29 @@ public final class RulesTest {
         task.analyze();
         new Rules(Trees.instance(task), unit).scan(unit, null);
         check(classes <= 12, "classes in the file: " + classes);
-        Set<String> names = new TreeSet<>();
         for (Element method : calls.keySet()) {
             int depth = depthOf(method, new HashSet<>());
             check(depth <= 8, method + " goes " + depth + " calls deep");
-            if (method.getModifiers().contains(Modifier.PUBLIC) && method.getKind() == ElementKind.METHOD) {
-                names.add(method.getSimpleName().toString());
-            }
         }
-        check(names.equals(FACE), "the public methods are " + names);
+        face.forEach(declared -> check(members.contains(declared), "the class lacks " + declared));
+        members.forEach(declared -> check(face.contains(declared), "the document does not declare " + declared));
         System.out.println(wrong == 0 ? "the class keeps to the rules" : wrong + " rules are broken");
         System.exit(wrong == 0 ? 0 : 1);
+    }
+
+    private static void readFace() throws IOException {
+        String block = Files.readString(Path.of("../shared/DOC.md")).replaceFirst("(?s).*## The public face\\s+```java", "").replaceFirst("(?s)```.*", "");
+        for (String line : block.lines().map(String::strip).filter(line -> line.startsWith("public")).toList()) {
+            String declared = line.replaceFirst("[;{]$", "").strip();
+            boolean isConstants = declared.startsWith(CONSTANT);
+            for (String one : isConstants ? declared.substring(CONSTANT.length()).split(", ") : new String[] {declared}) {
+                face.add(isConstants ? CONSTANT + one : one);
+            }
+        }
+    }
+
+    private static boolean isOfTheFace(String method) {
+        return face.stream().anyMatch(declared -> declared.contains(" " + method + "("));
     }
 
     private static void check(boolean holds, String rule) {
@@ -117,6 +135,7 @@ public final class RulesTest {
             boolean isOutermost = type.getSimpleName().contentEquals("TideWords");
             Set<Modifier> modifiers = type.getModifiers();
             check(isOutermost || modifiers.contains(Modifier.STATIC) && !modifiers.contains(Modifier.PUBLIC), type + " is not static, or public");
+            noteMember(type, tree.getModifiers(), "class " + tree.getSimpleName());
             int fields = 0;
             for (Element member : type.getEnclosedElements()) {
                 boolean isConstant = member.getModifiers().contains(Modifier.STATIC);
@@ -139,10 +158,28 @@ public final class RulesTest {
             String name = tree.getName().toString();
             check(tree.getParameters().size() <= 7, name + " takes more than 7 parameters");
             check(line(tree, true) - line(tree, false) < 60, name + " is longer than 60 lines");
-            check(method.getModifiers().contains(Modifier.PUBLIC) || !FACE.contains(name), name + " is the name of a public method");
+            check(method.getModifiers().contains(Modifier.PUBLIC) || !isOfTheFace(name), name + " is the name of a public method");
+            String type = tree.getReturnType() == null ? "TideWords" : tree.getReturnType() + " " + name;
+            noteMember(method, tree.getModifiers(), type + "(" + tree.getParameters().toString().replace(",", ", ") + ")");
             super.visitMethod(tree, none);
             method = before;
             return null;
+        }
+
+        @Override
+        public Void visitVariable(VariableTree tree, Void none) {
+            noteMember(trees.getElement(getCurrentPath()), tree.getModifiers(), tree.getType() + " " + tree.getName() + " = " + tree.getInitializer());
+            return super.visitVariable(tree, none);
+        }
+
+        /** What is public in the outermost class belongs to the face. */
+        private void noteMember(Element member, ModifiersTree modifiers, String declared) {
+            boolean isInside = member.getEnclosingElement().getEnclosingElement() instanceof TypeElement;
+            if (modifiers.getFlags().contains(Modifier.PUBLIC) && !isInside) {
+                StringBuilder whole = new StringBuilder();
+                modifiers.getFlags().forEach(flag -> whole.append(flag).append(' '));
+                members.add(whole + declared);
+            }
         }
 
         @Override
